@@ -134,7 +134,6 @@ public final class OneBullet {
 
     private static final int ROW_BITS = 4;
     private static final int ROW_MASK = 15;
-    private static final int ANSWER_SIZE = SHOT_PART + 4;
 
     private static final int DRAWN_SIZE = 6;
     private static final int DRAWN_DAY = 4;
@@ -1537,10 +1536,10 @@ public final class OneBullet {
         private final Province sheet = new Province();
         // The sheet ahead of the next of a row, by how many were had.
         private final int[] kept = new int[(QUARRELS_MOST + 1) * SHOT_PART];
-        // What was found behind QUARRELS that were had, as bits, and the sheet behind these: mostly the same one in
-        // whatever order, and then it need not be looked for again.
-        private final boolean[] hasAnswer = new boolean[1 << QUARRELS_MOST];
-        private final int[] answers = new int[ANSWER_SIZE << QUARRELS_MOST];
+        // Of QUARRELS that were had, as bits: how many rows were found behind them (NONE: not known), and by which
+        // sheet. That is mostly the same in whatever order they were had, and need not be tried again then.
+        private final int[] foundBehind = new int[1 << QUARRELS_MOST];
+        private final int[] sheetsBehind = new int[SHOT_PART << QUARRELS_MOST];
         private boolean oneIsEnough;
         private int weightWanted;
         private int flatWanted;
@@ -1565,7 +1564,7 @@ public final class OneBullet {
             if (!areRowsKnown) {
                 sheet.copy(now);
                 oneIsEnough = false;
-                forgetAnswers();
+                forgetBehind();
                 tryQuarrels(0, 0);
                 areRowsKnown = true;
             }
@@ -1579,7 +1578,7 @@ public final class OneBullet {
             for (int spades = 1; spades <= SPADES_MOST; spades++) {
                 resetSheet(0);
                 sheet.n[SPADES] = spades;
-                forgetAnswers();
+                forgetBehind();
                 tryQuarrels(0, 0);
                 if (found > 0) {
                     return spades;
@@ -1600,9 +1599,9 @@ public final class OneBullet {
             tryShots(0, n, 0);
         }
 
-        private void forgetAnswers() {
-            for (int had = 0; had < hasAnswer.length; had++) {
-                hasAnswer[had] = false;
+        private void forgetBehind() {
+            for (int had = 0; had < foundBehind.length; had++) {
+                foundBehind[had] = NONE;
             }
         }
 
@@ -1621,7 +1620,9 @@ public final class OneBullet {
                 setFound(1, 0, 0, sheet.n[WEIGHT]);
                 return;
             }
-            if (hasFound(had)) {
+            if (isKnownBehind(had)) {
+                // The first and the best of these were met ahead of this, in an earlier order of the same.
+                setFound(foundBehind[had], NONE, NONE, NONE);
                 return;
             }
             keepSheet(depth);
@@ -1644,7 +1645,8 @@ public final class OneBullet {
                 }
             }
             setFound(rows, first, best, most);
-            keepFound(had, depth);
+            foundBehind[had] = rows;
+            System.arraycopy(kept, depth * SHOT_PART, sheetsBehind, had * SHOT_PART, SHOT_PART);
         }
 
         private void setFound(int rows, int first, int best, int weight) {
@@ -1654,28 +1656,15 @@ public final class OneBullet {
             weightLeft = weight;
         }
 
-        private void keepFound(int had, int depth) {
-            int at = had * ANSWER_SIZE;
-            System.arraycopy(kept, depth * SHOT_PART, answers, at, SHOT_PART);
-            answers[at + SHOT_PART] = found;
-            answers[at + SHOT_PART + 1] = firstRow;
-            answers[at + SHOT_PART + 2] = bestRow;
-            answers[at + SHOT_PART + 3] = weightLeft;
-            hasAnswer[had] = true;
-        }
-
-        private boolean hasFound(int had) {
-            if (!hasAnswer[had]) {
+        private boolean isKnownBehind(int had) {
+            if (foundBehind[had] == NONE) {
                 return false;
             }
-            int at = had * ANSWER_SIZE;
             for (int i = 0; i < SHOT_PART; i++) {
-                if (answers[at + i] != sheet.n[i]) {
+                if (sheetsBehind[had * SHOT_PART + i] != sheet.n[i]) {
                     return false;
                 }
             }
-            at += SHOT_PART;
-            setFound(answers[at], answers[at + 1], answers[at + 2], answers[at + 3]);
             return true;
         }
 

@@ -351,6 +351,9 @@ public final class PromiseTest {
         lawFault("aims\t1", 4);
         lawFault("aims 1 times 2", 7);
         lawFault("aimsaim", 0);
+        lawFault("aimsz", 0);
+        lawFault("aims 10000", 5);
+        lawFault("aims 1;zzz", 7);
         due("leading zeros", law(new OneBullet(), "aims 0001000"), 0);
         String twelve = "bars;bars;bars;bars;bars;bars;bars;bars;bars;bars;bars;bars";
         due("twelve", law(new OneBullet(), twelve), 0);
@@ -738,6 +741,8 @@ public final class PromiseTest {
         x.fire(0, 7);
         due("shots", x.count(3), 24);
         due("the eldest is gone", x.log(0), 1);
+        due("moved up", x.log(21), 10);
+        due("moved up", x.log(22), 11);
         due("latest", x.log(23), 7);
         x.undo();
         due("eldest again", x.log(0), 0);
@@ -860,6 +865,11 @@ public final class PromiseTest {
         x.quarrel(0, 1, 0, 3);
         due("not by nine", x.spades(), -1);
         x = province();
+        x.place(3, 0, 18);
+        x.terms(1, 1);
+        x.quarrel(0, 1, 3, 4);
+        due("by nine", x.spades(), 9);
+        x = province();
         x.quarrel(0, 1, 2, 999);
         due("a lake", x.spades(), -1);
         x = under("wears 99 if rust < 5");
@@ -948,6 +958,12 @@ public final class PromiseTest {
         due("least", x.game(0), 0);
         x.put(0, 19);
         due("too light", x.game(0), -1);
+        // 20, 21, 24, 25 .. are lost: 997 is, 999 is won by 2 and by 6.
+        x.put(0, 999);
+        due("the heaviest", x.game(0), 1);
+        due("by both", x.game(1), 2);
+        x.put(0, 997);
+        due("lost", x.game(0), 0);
         x.put(0, 98);
         due("3", x.game(3), -1);
         due("-1", x.game(-1), -1);
