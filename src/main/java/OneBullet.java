@@ -1218,11 +1218,12 @@ public final class OneBullet {
             }
         }
 
+        /** As all stands: a DUEL with a bullet that can't be FIRED doesn't begin. */
         boolean canBeHad(Province p, int quarrel) {
             int first = p.n[FIRST + quarrel];
             int second = p.n[SECOND + quarrel];
             int place = p.n[WHERE + quarrel];
-            return !p.isHurt(first) && !p.isHurt(second)
+            return p.canBeFired() && !p.isHurt(first) && !p.isHurt(second)
                 && ask(p, BARS, first, place) == 0 && ask(p, BARS, second, place) == 0;
         }
 

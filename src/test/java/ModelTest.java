@@ -266,7 +266,7 @@ public final class ModelTest {
         boolean canHave(int q) {
             int[] x = quarrels.get(q);
             for (int k = 0; k < 2; k++) if (hurt(x[k]) || barred(x[k], x[2])) return false;
-            return true;
+            return can();
         }
 
         int duel(int q, Draws draws) {

@@ -238,8 +238,17 @@ public final class PromiseTest {
         due("the second is barred", x.about(0, 4), 0);
         due("not there", x.about(1, 4), 1);
         x.force(-1);
-        x.put(0, 10);
-        due("can be had though too light", x.about(0, 4), 1);
+        x.put(0, 19);
+        due("too light", x.about(0, 4), 0);
+        x.put(0, 20);
+        due("not too light", x.about(0, 4), 1);
+        x.terms(2, 21);
+        due("lighter than LEAST", x.about(0, 4), 0);
+        x.terms(2, 20);
+        x.fire(0, 2);
+        due("lost", x.about(0, 4), 0);
+        x.undo();
+        due("found again", x.about(0, 4), 1);
     }
 
     private static void terms() {
@@ -649,7 +658,22 @@ public final class PromiseTest {
         x.quarrel(1, 3, 0, 0);
         due("too light behind the last", x.duel(0, 77), 0);
         x.quarrel(1, 3, 0, 0);
-        due("too light from the first", x.duel(0, 77), 3);
+        due("too light from the first", x.duel(0, 77), -3);
+        due("status", x.status(), -3);
+        due("it stays", x.count(2), 1);
+        due("no shot", x.count(3), 12);
+        due("nothing of it to be undone", x.count(5), 0);
+        due("seed ahead of too light", x.duel(0, -1), -1);
+        due("missing ahead of too light", x.duel(1, 77), -2);
+        x.put(0, 100);
+        x.fire(1, 2);
+        due("lost", x.duel(0, 77), -3);
+        due("it stays", x.count(2), 1);
+        promise = 18;
+        due("by orders, too", orders(x, "rest 1; duel 0 by 77"), -3);
+        due("which", x.stopped(), 1);
+        due("as it was", x.count(13), 36);
+        promise = 22;
         x = under("bars if person = 1 and place = 0; aims 10 if weight < 100; aims 0 if weight = 100");
         x.quarrel(2, 1, 0, 0);
         x.quarrel(2, 1, 1, 0);
@@ -1049,6 +1073,17 @@ public final class PromiseTest {
         x.season(0, 1);
         x.back(0);
         due("images do not keep it", x.drawn(4), 0);
+        x.put(0, 19);
+        due("too light: rests", x.season(0, 5), 0);
+        due("day", x.drawn(4), 15);
+        due("none had", x.drawn(5), 1);
+        due("not lost", x.drawn(3), 0);
+        x.put(0, 20);
+        x.quarrel(0, 1, 0, 50);
+        x.quarrel(2, 1, 2, 50);
+        x.season(0, 30);
+        // 12345 draws the first; 628841 mod 10 is a miss, into the lake.
+        due("lost: the others stay", x.drawn(3) * 10 + x.drawn(5), 12);
     }
 
     private static void images() {
