@@ -430,7 +430,7 @@ public final class OneBullet {
     }
 
     public int marks(int n, int weight, int flat, int i) {
-        if (n < 1 || n > MARKS_MOST || i < NONE || i >= n) {
+        if (n < 1 || n > MARKS_MOST || i < NONE || i >= n || !canBeWeighed(weight, flat)) {
             return NONE;
         }
         rows.lookForMarks(n, weight, flat);
@@ -553,6 +553,10 @@ public final class OneBullet {
 
     private static boolean isPlace(int kind, int hard, int deep) {
         return kind >= 0 && kind <= KIND_MOST && hard >= 0 && hard <= HARD_MOST && deep >= 0 && deep <= DEEP_MOST;
+    }
+
+    private static boolean canBeWeighed(int weight, int flat) {
+        return weight >= 0 && weight <= WEIGHT_MOST && flat >= 0 && flat <= FLAT_MOST;
     }
 
     private boolean placeFromTape(int from) {

@@ -622,7 +622,7 @@ public final class ModelTest {
         }
 
         int marks(int n, int weight, int flat, int i) {
-            if (!in(n, 1, 3) || !in(i, -1, n - 1)) return NONE;
+            if (!in(n, 1, 3) || !in(i, -1, n - 1) || !in(weight, 0, 999) || !in(flat, 0, 99)) return NONE;
             int m = now.places.size(), all = (int) Math.pow(m, n), count = 0;
             int[] first = null;
             for (int code = 0; code < all; code++) {
@@ -903,6 +903,7 @@ public final class ModelTest {
                     State s = m.now.copy();
                     for (int k = 0; k < n && k < 3 && !s.places.isEmpty(); k++) s.shot(r.nextInt(s.places.size()));
                     if (r.nextInt(4) > 0) { w = s.weight; f = s.flat; }
+                    if (r.nextInt(12) == 0) { w = wild(0, 999); f = wild(0, 99); }
                     go("marks", n, w, f, wild(-1, 2));
                     break;
                 }
