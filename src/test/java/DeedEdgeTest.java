@@ -116,6 +116,16 @@ public final class DeedEdgeTest {
         Checks.due("FLAT by WEIGHT 99, one dent", x.bullet(1), 20);
     }
 
+    static void p21_bothAreAskedOfThePlaceAlone() {
+        // person and aim are -1, whoever fires.
+        OneBullet x = Checks.under("wears 5 + person + aim; flattens 9 + person + aim * 2");
+        Checks.due("by 0, by 2", new int[] {x.at(0, 4), x.at(0, 5), x.fire(0, 0), x.bullet(1), x.fire(2, 0), x.bullet(1)}, 3, 6, 97, 6, 94, 12);
+        x.quarrel(1, 2, 1, 0);
+        Checks.law(x, "aims 0; wears 5 + person + aim; flattens 9 + person + aim * 2");
+        x.force(1);
+        Checks.due("in a duel", new int[] {x.duel(0, 0), x.bullet(0), x.bullet(1)}, 0, 82, 36);
+    }
+
     // "DAY is later by DEEP by SPADES, cut upwards (999 at most), RUST by as many DAYS (99 at most)".
 
     static void p21_deepBySpadesCutUpwards() {
@@ -379,6 +389,34 @@ public final class DeedEdgeTest {
         x.terms(1, 1);
         x.quarrel(0, 1, 0, 0);
         Checks.due("lost by the first of two", new int[] {x.duel(0, 0), x.count(3), x.bullet(3), x.count(2)}, 3, 1, 1, 0);
+    }
+
+    static void p22_itIsThatQuarrel() {
+        for (int k = 0; k < 7; k++) {
+            OneBullet x = new OneBullet();
+            for (int p = 0; p < 7; p++) x.place(0, 10 * p, 0);
+            for (int p = 0; p < 9; p++) x.person(0, 0);
+            x.person(10, 1);
+            // The first one misses, the second one, 9, hits.
+            for (int q = 0; q < 7; q++) x.quarrel(8 - q, 9, 6 - q, 0);
+            Checks.due("the first one is hit", new int[] {x.duel(k, 0), x.of(8 - k, 2), x.at(6 - k, 3), x.bullet(0)}, 2, 7, 1, 94 + k);
+            Checks.due("the LOG", new int[] {x.log(0), x.log(1)}, 6 - k, 20 - k);
+        }
+        for (int k = 0; k < 7; k++) {
+            OneBullet x = new OneBullet();
+            for (int p = 0; p < 7; p++) x.place(0, 0, 0);
+            for (int p = 0; p < 9; p++) x.person(0, 0);
+            x.person(10, 1);
+            for (int q = 0; q < 7; q++) x.quarrel(9, 8 - q, 6 - q, 0);
+            Checks.due("the second one is hit", new int[] {x.duel(k, 0), x.of(8 - k, 2), x.log(0)}, 1, 7, 20 - k);
+        }
+    }
+
+    static void p22_aimsAtTheQuarrelsPlace() {
+        OneBullet x = Checks.under("aims 0; aims 10 if place = 1");
+        x.quarrel(0, 1, 0, 0);
+        x.quarrel(1, 0, 1, 0);
+        Checks.due("at the wall, at the wood", new int[] {x.duel(0, 0), x.duel(0, 0)}, 0, 1);
     }
 
     // "The QUARREL is gone then, those behind it move up."

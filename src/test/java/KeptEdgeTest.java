@@ -109,6 +109,25 @@ public final class KeptEdgeTest {
         Checks.due("a new place, person, quarrel", new int[] {x.place(0, 0, 0), x.at(3, 3), x.person(0, 0), x.of(3, 2), x.quarrel(0, 1, 0, 0)}, 3, 0, 3, 0, 1);
     }
 
+    static void p36_lawsAreAsTheyWereThen() {
+        OneBullet x = Checks.province();
+        x.image(0);
+        for (int k = 0; k < 6; k++) Checks.law(x, "aims " + k);
+        x.force(4);
+        x.image(1);
+        x.back(0);
+        Checks.due("none", new int[] {x.count(4), x.count(12), x.force(0), x.of(0, 4)}, 0, -1, -2, 5);
+        for (int k = 0; k < 6; k++) Checks.law(x, "aims " + (9 - k));
+        x.force(0);
+        Checks.due("others", x.of(0, 4), 9);
+        x.back(1);
+        Checks.due("six, 4 in force", new int[] {x.count(4), x.count(12), x.of(0, 4)}, 6, 4, 4);
+        for (int k = 0; k < 6; k++) {
+            x.force(k);
+            Checks.due("law " + k, x.of(0, 4), k);
+        }
+    }
+
     static void p36_imagesStay() {
         OneBullet x = busy();
         x.terms(1, 1);

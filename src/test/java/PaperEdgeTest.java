@@ -57,6 +57,20 @@ public final class PaperEdgeTest {
         odds("the fourth can't be", x, 0, 62500000, 25000000, 12500000);
         x.put(0, 20);
         odds("the second can't be", x, 0, 50000000, 0, 50000000);
+        x.put(0, 23);
+        odds("the fourth is fired at 20 again", x, 6250000, 62500000, 31250000, 0);
+    }
+
+    static void p26_ofThatQuarrel() {
+        OneBullet x = Checks.province();
+        x.quarrel(2, 0, 0, 0);
+        x.quarrel(1, 0, 1, 0);
+        x.quarrel(1, 0, 2, 0);
+        x.quarrel(0, 1, 2, 0);
+        Checks.due("0: the second one is hit", x.odds(0, 1), ALL);
+        Checks.due("1: the first one is hit, or nobody", new int[] {x.odds(1, 0), x.odds(1, 2), x.odds(1, 3)}, 25000000, 75000000, 0);
+        Checks.due("2: it goes into the lake", x.odds(2, 3), ALL);
+        Checks.due("3: the second one is hit, or it goes into the lake", new int[] {x.odds(3, 1), x.odds(3, 3)}, 50000000, 50000000);
     }
 
     static void p26_ofABulletThatCanNotBeFired() {
@@ -215,6 +229,39 @@ public final class PaperEdgeTest {
         Checks.due("0, 1, 2", new int[] {x.queue(11), x.queue(12), x.queue(13), x.queue(21)}, 0, 1, 2, 72);
     }
 
+    static void p27_lawsAskedAsAllIsThen() {
+        // 3 and 5 DAYS a shot, two shots: the wall first leaves RUST 6, the wood first RUST 10. A third one wears by it.
+        OneBullet x = Checks.under("wears 0; wears rust if place = 3");
+        x.terms(1, 1);
+        x.place(3, 0, 0);
+        x.quarrel(0, 1, 0, 999);
+        x.quarrel(0, 1, 1, 999);
+        x.quarrel(0, 1, 3, 999);
+        // Its second shot, and what comes behind it, must be fired at 20 or more: behind the wood alone twice 10 are worn,
+        // behind both 16 by the first shot, behind the wall alone twice 6, nothing ahead of both.
+        int[][] rows = {{40, 6}, {39, 5}, {36, 5}, {35, 3}, {32, 3}, {31, 2}, {20, 2}, {19, 0}};
+        for (int[] row : rows) {
+            x.put(0, row[0]);
+            Checks.due("rows from " + row[0], x.queue(0), row[1]);
+        }
+        x.put(0, 35);
+        Checks.due("the first", new int[] {x.queue(1), x.queue(2), x.queue(3)}, 0, 2, 1);
+        Checks.due("the best", new int[] {x.queue(11), x.queue(12), x.queue(13), x.queue(21)}, 2, 0, 1, 35);
+    }
+
+    static void p27_theSameQuarrelsInAnotherOrder() {
+        // Which of 0 and 1 was had first sets FLAT: by FLAT 1 the last one wears twice 40, and can't be had.
+        OneBullet x = Checks.under("wears 1; flattens 0; wears 40 if place = 3 and flat = 1; flattens 1 if place = 0 and flat = 0; flattens 2 if place = 1 and flat = 0");
+        x.terms(1, 1);
+        x.place(3, 0, 0);
+        x.quarrel(0, 1, 0, 999);
+        x.quarrel(0, 1, 1, 999);
+        x.quarrel(0, 1, 3, 999);
+        x.put(0, 59);
+        // 0 1 2, 0 2 1: FLAT 1. 1 0 2, 1 2 0: FLAT 2. 2 0 1, 2 1 0: FLAT 0.
+        Checks.due("four", new int[] {x.queue(0), x.queue(1), x.queue(2), x.queue(3), x.queue(11), x.queue(21)}, 4, 1, 0, 2, 1, 53);
+    }
+
     static void p27_onPaper() {
         OneBullet x = pair(1, 50, 5, 3, 3, 999);
         int[] before = Checks.picture(x);
@@ -230,6 +277,8 @@ public final class PaperEdgeTest {
         Checks.due("behind spades()", new int[] {x.queue(0), x.queue(21)}, 1, 96);
         x.marks(1, 99, 0, -1);
         Checks.due("behind marks()", new int[] {x.queue(0), x.queue(1), x.queue(21)}, 1, 0, 96);
+        x.marks(1, 98, 0, -1);
+        Checks.due("behind marks() without rows", new int[] {x.queue(0), x.queue(1), x.queue(21)}, 1, 0, 96);
         x.rest(1);
         Checks.due("behind rest()", x.queue(0), 0);
         x.undo();
@@ -261,6 +310,15 @@ public final class PaperEdgeTest {
         Checks.due("behind place(), person()", x.queue(0), 1);
     }
 
+    static void p27_severalRowsBehindSpades() {
+        OneBullet x = pair(3, 10, 0, 0, 0, 20);
+        x.quarrel(1, 0, 0, 20);
+        x.spades();
+        Checks.due("two", new int[] {x.queue(0), x.queue(21)}, 2, 92);
+        x.spades();
+        Checks.due("two still", new int[] {x.queue(0), x.queue(21)}, 2, 92);
+    }
+
     // ---- Promise 28: spades. "The fewest SPADES. NONE (not by 9)."
 
     static void p28_1To9() {
@@ -268,6 +326,16 @@ public final class PaperEdgeTest {
         int[][] rows = {{999, 1}, {18, 1}, {17, 2}, {10, 2}, {9, 3}, {6, 3}, {5, 5}, {4, 5}, {3, 9}, {2, 9}, {1, -1}, {0, -1}};
         for (int[] row : rows) {
             OneBullet x = pair(3, 0, 9, 0, 0, row[0]);
+            x.terms(1, 1);
+            Checks.due("DUE " + row[0], x.spades(), row[1]);
+        }
+    }
+
+    static void p28_notBy10() {
+        // Two shots, 20 deep: 6 DAYS by 7, 8, 9, and 4 by 10.
+        int[][] rows = {{6, 7}, {5, -1}, {4, -1}};
+        for (int[] row : rows) {
+            OneBullet x = pair(3, 0, 20, 0, 0, row[0]);
             x.terms(1, 1);
             Checks.due("DUE " + row[0], x.spades(), row[1]);
         }
@@ -549,6 +617,8 @@ public final class PaperEdgeTest {
 
     static void p31_what0To2() {
         OneBullet x = Checks.province();
+        x.put(0, 98);
+        game("won", x, 1, 2, 0);
         Checks.due("3, -1, far", new int[] {x.game(3), x.game(-1), x.game(HIGH), x.game(LOW)}, -1, -1, -1, -1);
     }
 
@@ -626,6 +696,12 @@ public final class PaperEdgeTest {
         Checks.due("a shot that wears nothing", new int[] {x.share(0, 0), x.share(0, 1)}, -1, -1);
         x.put(0, 50);
         Checks.due("put() is no shot", x.share(0, 0), -1);
+    }
+
+    static void p32_oneWasLost() {
+        OneBullet x = pair(0, 10, 0, 0, 0, 0);
+        x.fire(1, 0);
+        Checks.due("1", new int[] {x.share(0, 0), x.share(0, 1), x.share(1, 0), x.share(1, 1)}, 0, 1, 1, 1);
     }
 
     static void p32_allAndNothing() {

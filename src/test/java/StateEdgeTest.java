@@ -159,7 +159,7 @@ public final class StateEdgeTest {
         for (int k = 0; k < 12; k++) Checks.due("place", x.place(k % 4, k, k), k);
         Checks.due("the 13th", x.place(0, 0, 0), -5);
         Checks.due("twelve still", x.count(0), 12);
-        Checks.due("the last is as it was", new int[] {x.at(11, 0), x.at(11, 1), x.at(11, 2)}, 3, 11, 11);
+        for (int k = 0; k < 12; k++) Checks.due("all are as they were", new int[] {x.at(k, 0), x.at(k, 1), x.at(k, 2)}, k % 4, k, k);
         Checks.due("there is no 12", x.at(12, 0), -1);
     }
 
@@ -202,6 +202,9 @@ public final class StateEdgeTest {
         Checks.due("one", x.at(0, 6), 10);
         x.fire(0, 0);
         Checks.due("two", x.at(0, 6), 20);
+        for (int k = 1; k < 12; k++) x.place(0, 0, 0);
+        x.fire(0, 11);
+        Checks.due("one of the last, none of another", new int[] {x.at(11, 6), x.at(1, 6)}, 10, 0);
     }
 
     static void p05_noSuchPlace() {
@@ -238,7 +241,7 @@ public final class StateEdgeTest {
         for (int k = 0; k < 10; k++) Checks.due("person", x.person(k, k % 2), k);
         Checks.due("the 11th", x.person(0, 0), -5);
         Checks.due("ten still", x.count(1), 10);
-        Checks.due("the last is as it was", new int[] {x.of(9, 0), x.of(9, 1)}, 9, 1);
+        for (int k = 0; k < 10; k++) Checks.due("all are as they were", new int[] {x.of(k, 0), x.of(k, 1), x.of(k, 2)}, k, k % 2, 0);
         Checks.due("there is no 10", x.of(10, 0), -1);
     }
 
@@ -270,6 +273,18 @@ public final class StateEdgeTest {
         Checks.due("on 18", x.of(0, 3), 0);
         x.terms(0, 0);
         Checks.due("on 0", x.of(0, 3), 1);
+    }
+
+    static void p07_hurtOfEachOne() {
+        for (int hit = 0; hit < 9; hit++) {
+            OneBullet x = new OneBullet();
+            x.place(0, 0, 0);
+            for (int k = 0; k < 10; k++) x.person(10, k % 2);
+            x.quarrel(9, hit, 0, 0);
+            x.terms(0, 3);
+            x.duel(0, 0);
+            for (int k = 0; k < 10; k++) Checks.due("of " + k, new int[] {x.of(k, 2), x.of(k, 3)}, k == hit ? 10 : 0, k == hit ? 1 : 0);
+        }
     }
 
     static void p07_aimsAt4AndMoreAreOfPlaces() {
@@ -326,7 +341,9 @@ public final class StateEdgeTest {
         for (int k = 0; k < 7; k++) Checks.due("quarrel", x.quarrel(k % 2, 2, k % 3, 10 + k), k);
         Checks.due("the 8th", x.quarrel(0, 1, 0, 0), -5);
         Checks.due("seven still", x.count(2), 7);
-        Checks.due("the last is as it was", new int[] {x.about(6, 0), x.about(6, 1), x.about(6, 2), x.about(6, 3)}, 0, 2, 0, 16);
+        for (int k = 0; k < 7; k++) {
+            Checks.due("all are as they were", new int[] {x.about(k, 0), x.about(k, 1), x.about(k, 2), x.about(k, 3)}, k % 2, 2, k % 3, 10 + k);
+        }
         Checks.due("there is no 7", x.about(7, 0), -1);
     }
 

@@ -246,6 +246,8 @@ public final class TextEdgeTest {
         Checks.due("of a PLACE person and aim are -1", new int[] {x.at(0, 6), x.at(1, 6), x.at(2, 6)}, 1110, 1121, 1132);
         x = Checks.under("aims 1 if person = 2; aims 2 if person = 0 and aim = 5; aims 3 if place = 2 and kind = 2 and hard = 40; aims 4 if dents = 1");
         Checks.due("person, aim, place, kind, hard", new int[] {x.of(2, 4), x.of(0, 4), x.of(1, 4), x.of(1, 6)}, 1, 2, 0, 3);
+        OneBullet y = Checks.under("aims aim / 2");
+        Checks.due("aim of each one", new int[] {y.of(0, 4), y.of(1, 4), y.of(2, 4)}, 2, 0, 5);
         x.fire(0, 0);
         Checks.due("dents, of its PLACE alone", new int[] {x.of(1, 4), x.of(1, 5)}, 4, 0);
         x = Checks.under("prices 1 if weight = 999 and flat = 98 and rust = 97 and day = 996 and mood = 9");
@@ -287,9 +289,28 @@ public final class TextEdgeTest {
 
     static void p15_theTextIsTheLimitNotTheObject() {
         OneBullet x = new OneBullet();
-        String fifty = "aims 1" + Checks.times("+1", 49);
-        for (int k = 0; k < 6; k++) Checks.due("law", Checks.law(x, fifty), k);
-        Checks.due("orders, too", Checks.orders(x, "rest 1" + Checks.times("+0", 49)), 1);
+        x.person(0, 0);
+        x.place(0, 0, 0);
+        for (int k = 0; k < 6; k++) {
+            Checks.due("law", Checks.law(x, "aims " + (k + 3) + Checks.times("+0", 49)), k);
+            x.force(k);
+            Checks.due("what it tells", x.of(0, 4), k + 3);
+        }
+        for (int k = 1; k < 7; k++) {
+            Checks.due("orders, too", new int[] {Checks.orders(x, "rest " + (k + 1) + Checks.times("+0", 49)), x.count(13)}, 1, k * (k + 3) / 2);
+        }
+    }
+
+    static void p15_aFaultWithinBracketsCountsForNoOtherText() {
+        OneBullet x = new OneBullet();
+        Checks.due("a fault within eight", Checks.law(x, "aims " + Checks.times("[", 8) + "1"), -6);
+        Checks.due("eight", Checks.law(x, "aims " + Checks.times("[", 8) + "1" + Checks.times("]", 8)), 0);
+        Checks.due("a fault within eight", Checks.orders(x, "rest 1 if " + Checks.times("(", 8) + "1"), -6);
+        Checks.due("eight", Checks.orders(x, "rest 1 if " + Checks.times("(", 8) + "1=1" + Checks.times(")", 8)), 1);
+        Checks.due("a fault behind fifty", Checks.orders(x, "rest 1" + Checks.times("+0", 49) + "+"), -6);
+        Checks.due("fifty", Checks.orders(x, "rest 1" + Checks.times("+0", 49)), 1);
+        Checks.due("a fault in the twelfth", Checks.orders(x, Checks.times("rest 1;", 11) + "rest"), -6);
+        Checks.due("twelve", Checks.orders(x, Checks.times("rest 1;", 11) + "rest 1"), 12);
     }
 
     // "8 brackets of both kinds within one another (FAULT at the 9th) at most."
@@ -448,6 +469,12 @@ public final class TextEdgeTest {
         test("not (1=2 or 1=1)", 0);
         test("not 1=1 and 1=2", 0);
         test("not (1=1 and 1=2)", 1);
+        test("not 1<2 and 1=1", 0);
+        test("not 2>1 and 1=1", 0);
+        test("not 2=2 and 1=1", 0);
+        test("not 2<1 and 1=1", 1);
+        test("not 1<2 or 1=2", 0);
+        test("not 1>2 or 1=2", 1);
     }
 
     // "A CLAUSE HOLDS, if its "if" (if it has one) is so, and neither that nor its SUM is BROKEN."
@@ -582,6 +609,11 @@ public final class TextEdgeTest {
         ordersFault("rest 1 times 2 times 2", 15);
     }
 
+    static void p16_allIsReadAheadOfTheFirstThatCanNotBe() {
+        ordersFault("rest 0; rest", 12);
+        ordersFault("rest 1; fire 9 at 9; rest 1 1", 28);
+    }
+
     static void p16_times1To20() {
         ordersRead("rest 1 times 1", 1);
         ordersRead("rest 1 times 20", 20);
@@ -709,6 +741,29 @@ public final class TextEdgeTest {
         // Nobody is hit; the second is; the first is; it goes into the lake.
         Checks.due("0, 1, 2, 3", Checks.orders(x, "duel 0 by 0; rest 1 if ended=0; duel 0 by 0; rest 1 if ended=1; duel 0 by 0; rest 7 if ended=2;"
             + "duel 0 by 0; rest 1 if ended=3"), 8);
+    }
+
+    static void p16_hurtAndDentsOfEachOne() {
+        OneBullet x = new OneBullet();
+        for (int k = 0; k < 12; k++) {
+            Checks.due("no PLACE " + k, Checks.orders(x, "rest 1 if dents " + k + " = 0-1"), 1);
+            x.place(3, 0, 0);
+            Checks.due("PLACE " + k, Checks.orders(x, "rest 1 if dents " + k + " = 0"), 1);
+        }
+        for (int k = 0; k < 10; k++) {
+            Checks.due("no PERSON " + k, Checks.orders(x, "rest 1 if hurt " + k + " = 0-1"), 1);
+            x.person(10, 0);
+            Checks.due("PERSON " + k, Checks.orders(x, "rest 1 if hurt " + k + " = 0"), 1);
+        }
+        for (int k = 0; k < 12; k++) {
+            x.fire(0, k);
+            Checks.due("a dent of " + k, Checks.orders(x, "rest 1 if dents " + k + " = 1"), 1);
+        }
+        x.terms(0, 0);
+        for (int k = 0; k < 10; k++) {
+            x.quarrel((k + 1) % 10, k, 0, 0);
+            Checks.due("hurt of " + k, Checks.orders(x, "duel 0 by 0; rest 10 if hurt " + k + " = 7+now"), 2);
+        }
     }
 
     static void p16_hurtAndDentsOfNoSuch() {
