@@ -420,6 +420,44 @@ public final class KeptEdgeTest {
         }
     }
 
+    static void p38_aCallWithoutRoomLeavesAllAsItWas() {
+        OneBullet x = busy();
+        for (int k = 3; k < 12; k++) x.place(1, k, k);
+        for (int k = 3; k < 10; k++) x.person(k, 1);
+        for (int k = 1; k < 7; k++) x.quarrel(k, 0, k, k);
+        for (int k = 1; k < 6; k++) Checks.law(x, "aims " + k);
+        x.terms(0, 50);
+        x.fire(2, 0);
+        int[] before = Checks.picture(x);
+        Checks.due("-5 each", new int[] {x.place(0, 0, 0), x.person(0, 0), x.quarrel(0, 1, 0, 0), Checks.law(x, "aims 9")}, -5, -5, -5, -5);
+        Checks.same("no room", x, before);
+        Checks.due("still to be undone", new int[] {x.undo(), x.bullet(0)}, 0, 88);
+    }
+
+    /** Only FAULT and where it stopped are new, and the TAPE is empty: orders that run nothing set these back. */
+    static void p38_aTextThatCanNotBeLeavesAllElseAsItWas() {
+        String[] texts = {"", " ", "bars bars", "rest 1; rest", "fire 0 at 0; rest 1; aims"};
+        for (int k = 0; k < 2 * texts.length; k++) {
+            OneBullet x = busy();
+            x.season(0, 3);
+            Checks.orders(x, "rest 1 if 1=2");
+            int[] before = Checks.picture(x);
+            String text = texts[k / 2];
+            Checks.due("-6 " + text, k % 2 == 0 ? Checks.law(x, text) : Checks.orders(x, text), -6);
+            Checks.orders(x, "rest 1 if 1=2");
+            Checks.same(text, x, before);
+            Checks.due("still to be undone", x.undo(), 1);
+        }
+    }
+
+    static void p38_anUndoThatIsRefusedLeavesAllAsItWas() {
+        OneBullet x = busy();
+        for (int k = 0; k < 3; k++) x.undo();
+        int[] before = Checks.picture(x);
+        Checks.due("-3", new int[] {x.undo(), x.undo(), x.status()}, -3, -3, -3);
+        Checks.same("undo", x, before);
+    }
+
     public static void main(String[] args) throws Exception {
         Checks.runAll(KeptEdgeTest.class, 35, 36, 37, 38);
     }
