@@ -96,7 +96,6 @@ public final class OneBullet {
     private static final int RESTS = 2;
     // "hurt" and "dents" have a word of their own for each PERSON, each PLACE.
     private static final int HURT_WORD = 6;
-    private static final int DENTS_WORD = 7;
     private static final int HURT_WORDS = 6;
     private static final int DENTS_WORDS = HURT_WORDS + PEOPLE_MOST;
     private static final int ORDER_WORD_COUNT = DENTS_WORDS + PLACES_MOST;

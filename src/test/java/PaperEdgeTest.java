@@ -262,6 +262,37 @@ public final class PaperEdgeTest {
         Checks.due("four", new int[] {x.queue(0), x.queue(1), x.queue(2), x.queue(3), x.queue(11), x.queue(21)}, 4, 1, 0, 2, 1, 53);
     }
 
+    static void p27_theSameQuarrelsTheOtherWayRound() {
+        // As above, but FLAT 1 comes of the later order.
+        OneBullet x = Checks.under("wears 1; flattens 0; wears 40 if place = 3 and flat = 1; flattens 2 if place = 0 and flat = 0; flattens 1 if place = 1 and flat = 0");
+        x.terms(1, 1);
+        x.place(3, 0, 0);
+        x.quarrel(0, 1, 0, 999);
+        x.quarrel(0, 1, 1, 999);
+        x.quarrel(0, 1, 3, 999);
+        x.put(0, 59);
+        // 0 1 2, 0 2 1: FLAT 2. 1 0 2, 1 2 0: FLAT 1. 2 0 1, 2 1 0: FLAT 0.
+        Checks.due("four", new int[] {x.queue(0), x.queue(1), x.queue(2), x.queue(3), x.queue(11), x.queue(21)}, 4, 0, 1, 2, 0, 53);
+    }
+
+    static void p27_theFirstIsNotTheBest() {
+        // FLAT by 2 is how many were had ahead. What a shot wears, by the place and by that: 0: 1 2 0; 1: 0 3 1; 3: 2 0 3.
+        OneBullet x = Checks.under("flattens 1; wears 0; wears 1 if place*10+flat/2=0; wears 2 if place*10+flat/2=1; wears 3 if place*10+flat/2=11;"
+            + "wears 1 if place*10+flat/2=12; wears 2 if place*10+flat/2=30; wears 3 if place*10+flat/2=32");
+        x.terms(1, 1);
+        x.place(3, 0, 0);
+        x.quarrel(0, 1, 0, 999);
+        x.quarrel(0, 1, 1, 999);
+        x.quarrel(0, 1, 3, 999);
+        // Twice 7, 2, 5, 0, 5, 5 by 0 1 2, 0 2 1, 1 0 2, 1 2 0, 2 0 1, 2 1 0.
+        Checks.due("the first", new int[] {x.queue(0), x.queue(1), x.queue(2), x.queue(3)}, 6, 0, 1, 2);
+        Checks.due("the best", new int[] {x.queue(11), x.queue(12), x.queue(13), x.queue(21)}, 1, 2, 0, 100);
+        x.quarrel(1, 0, 0, 999);
+        // A fourth one wears nothing if it is the last: 1 2 0 3, and 1 2 3 0, by which 0 is the last and 3 the third.
+        Checks.due("of four", new int[] {x.queue(0), x.queue(1), x.queue(4), x.queue(11), x.queue(12), x.queue(13), x.queue(14), x.queue(21)},
+            24, 0, 3, 1, 2, 0, 3, 100);
+    }
+
     static void p27_onPaper() {
         OneBullet x = pair(1, 50, 5, 3, 3, 999);
         int[] before = Checks.picture(x);
@@ -484,6 +515,13 @@ public final class PaperEdgeTest {
         Checks.due("three", new int[] {x.marks(3, 86, 7, -1), x.marks(3, 86, 7, 0), x.marks(3, 86, 7, 1), x.marks(3, 86, 7, 2), x.marks(3, 86, 7, 3)}, 3, 0, 0, 1, -1);
     }
 
+    static void p30_justThatWeightAndThatFlat() {
+        OneBullet x = Checks.province();
+        Checks.due("94 and 3", x.marks(1, 94, 3, -1), 1);
+        Checks.due("FLAT 2, 4, 0, 99", new int[] {x.marks(1, 94, 2, -1), x.marks(1, 94, 4, -1), x.marks(1, 94, 0, -1), x.marks(1, 94, 99, -1)}, 0, 0, 0, 0);
+        Checks.due("WEIGHT 93, 95, 0, 999", new int[] {x.marks(1, 93, 3, -1), x.marks(1, 95, 3, -1), x.marks(1, 0, 3, -1), x.marks(1, 999, 3, -1)}, 0, 0, 0, 0);
+    }
+
     static void p30_noPlaces() {
         OneBullet x = new OneBullet();
         Checks.due("no rows", new int[] {x.marks(1, 100, 0, -1), x.marks(1, 100, 0, 0)}, 0, -1);
@@ -593,6 +631,15 @@ public final class PaperEdgeTest {
         game("80 times 1", x, 0, 0, -1);
         x.put(0, 99);
         game("79 times 1", x, 1, 1, 2);
+    }
+
+    static void p31_noLakesButAllOtherKinds() {
+        for (int kind = 0; kind < 4; kind++) {
+            OneBullet x = new OneBullet();
+            x.place(kind, 10, 0);
+            x.put(0, 21);
+            game("kind " + kind, x, kind == 2 ? 0 : 1, kind == 2 ? 0 : 1, kind == 2 ? -1 : 0);
+        }
     }
 
     static void p31_theOtherCanNotMakeItLighter() {

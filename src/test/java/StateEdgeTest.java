@@ -128,6 +128,9 @@ public final class StateEdgeTest {
         OneBullet x = new OneBullet();
         Checks.due("6, -1, far", new int[] {x.bullet(6), x.bullet(-1), x.bullet(HIGH), x.bullet(LOW)}, -1, -1, -1, -1);
         Checks.due("is no refusal", x.count(7), 0);
+        OneBullet y = Checks.province();
+        y.fire(0, 1);
+        Checks.due("behind a shot, too", new int[] {y.bullet(5), y.bullet(6), y.bullet(-1), y.bullet(HIGH), y.bullet(LOW)}, 1, -1, -1, -1, -1);
     }
 
     // ---- Promise 4: place. "PLACES 0 .. 11 (12 at most): KIND 0 .. 3, HARD 0 .. 99, DEEP 0 .. 20".

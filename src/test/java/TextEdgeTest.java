@@ -213,6 +213,9 @@ public final class TextEdgeTest {
     static void p15_numbersTo1000() {
         lawReads("aims 1000");
         lawFault("aims 1001", 5);
+        lawFault("aims 10000", 5);
+        lawFault("aims 10001", 5);
+        lawFault("aims 1000000000000", 5);
         lawFault("aims 9999999999999999999999", 5);
         // 4294967297 and 2147483648 must not wrap round to small ones.
         lawFault("aims 4294967297", 5);
@@ -425,6 +428,31 @@ public final class TextEdgeTest {
         test("0 - 1 > 0", 0);
         test("1000*1000*1000 > 0 - 1000*1000*1000", 1);
         test("1000*1000*1000 = 1000*1000*1000", 1);
+    }
+
+    static void p15_eachThatIsNotSoWithinOrAndAnd() {
+        for (String not : new String[] {"2<1", "2<2", "1>2", "2>2", "1=2", "2=1"}) {
+            test(not + " or 1=1", 1);
+            test(not + " or 1=2", 0);
+            test(not + " or 1/0=1", 2);
+            test(not + " and 1=1", 0);
+            test(not + " and 1/0=1", 0);
+            test("1=1 and " + not, 0);
+            test("1=2 or " + not, 0);
+            test("not " + not, 1);
+            test("not not " + not, 0);
+        }
+        for (String so : new String[] {"1<2", "2>1", "2=2"}) {
+            test(so + " or 1=2", 1);
+            test(so + " or 1/0=1", 1);
+            test(so + " and 1=1", 1);
+            test(so + " and 1=2", 0);
+            test(so + " and 1/0=1", 2);
+            test("1=1 and " + so, 1);
+            test("1=2 or " + so, 1);
+            test("not " + so, 0);
+            test("not not " + so, 1);
+        }
     }
 
     static void p15_aTestOfABrokenSumIsBroken() {
@@ -652,6 +680,7 @@ public final class TextEdgeTest {
     static void p16_numbersTo1000() {
         ordersRead("rest 1000/1000", 1);
         ordersFault("rest 1001/1000", 5);
+        ordersFault("rest 10000/1000", 5);
     }
 
     static void p16_theEightWords() {
@@ -741,6 +770,25 @@ public final class TextEdgeTest {
         // Nobody is hit; the second is; the first is; it goes into the lake.
         Checks.due("0, 1, 2, 3", Checks.orders(x, "duel 0 by 0; rest 1 if ended=0; duel 0 by 0; rest 1 if ended=1; duel 0 by 0; rest 7 if ended=2;"
             + "duel 0 by 0; rest 1 if ended=3"), 8);
+    }
+
+    static void p16_endedStaysWhenOthersAreRun() {
+        OneBullet x = Checks.province();
+        x.person(0, 0);
+        x.quarrel(2, 1, 0, 0);
+        x.quarrel(3, 1, 1, 0);
+        Checks.due("1 behind a shot and a rest", Checks.orders(x, "duel 0 by 0; fire 0 at 0; rest 5; rest 7 if ended = 1"), 4);
+        Checks.due("0 behind a shot", Checks.orders(x, "duel 0 by 0; fire 0 at 0; rest 1 if ended = 0; rest 1; rest 1 if ended = 0"), 5);
+    }
+
+    static void p16_shotsAndDuelsWithIf() {
+        OneBullet x = Checks.province();
+        x.quarrel(2, 1, 0, 0);
+        Checks.due("a shot, if it is so", new int[] {Checks.orders(x, "fire 0 at 0 if weight = 100"), x.bullet(0)}, 1, 94);
+        Checks.due("a shot, if it is not", new int[] {Checks.orders(x, "fire 0 at 0 if weight = 100"), x.bullet(0)}, 0, 94);
+        Checks.due("as often as it is so", new int[] {Checks.orders(x, "fire 0 at 1 times 9 if dents 1 < 3"), x.at(1, 3)}, 3, 3);
+        Checks.due("a duel, if it is not", new int[] {Checks.orders(x, "duel 0 by 0 if 1 = 2"), x.count(2)}, 0, 1);
+        Checks.due("a duel, if it is so", new int[] {Checks.orders(x, "duel 0 by 0 times 1 if not 1 = 2"), x.count(2)}, 1, 0);
     }
 
     static void p16_hurtAndDentsOfEachOne() {
@@ -975,6 +1023,15 @@ public final class TextEdgeTest {
         Checks.due("people 3, -1, far", new int[] {x.barred(3, 0), x.barred(-1, 0), x.barred(Integer.MAX_VALUE, 0)}, -1, -1, -1);
         Checks.due("places 3, -1, far", new int[] {x.barred(0, 3), x.barred(0, -1), x.barred(0, Integer.MAX_VALUE)}, -1, -1, -1);
         Checks.due("is no refusal", x.count(8), 0);
+    }
+
+    static void p20_otherNumbersOfPeopleThanOfPlaces() {
+        OneBullet x = Checks.under("bars");
+        x.place(0, 0, 0);
+        Checks.due("PLACE 3 is there, PERSON 3 is not", new int[] {x.barred(2, 3), x.barred(3, 2), x.barred(3, 3)}, 1, -1, -1);
+        OneBullet y = Checks.under("bars");
+        y.person(0, 0);
+        Checks.due("PERSON 3 is there, PLACE 3 is not", new int[] {y.barred(3, 2), y.barred(2, 3), y.barred(3, 3)}, 1, -1, -1);
     }
 
     static void p20_ifAnyBarsHolds() {
