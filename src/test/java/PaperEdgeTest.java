@@ -576,6 +576,16 @@ public final class PaperEdgeTest {
         Checks.due("barred", y.marks(1, 94, 3, -1), 1);
     }
 
+    static void p30_tenPeopleAside() {
+        for (int aim = 0; aim < 11; aim++) {
+            OneBullet x = Checks.province();
+            for (int k = 3; k < 10; k++) x.person(aim, k % 2);
+            for (int k = 0; k < 3; k++) x.quarrel(8, 9, k % 2, 999);
+            Checks.due("of AIM " + aim, new int[] {x.marks(2, 92, 4, -1), x.marks(2, 92, 4, 0), x.marks(2, 92, 4, 1), x.marks(3, 82, 9, -1)}, 2, 0, 1, 1);
+            Checks.due("rows, weight, spades", new int[] {x.queue(0), x.queue(21), x.spades()}, 6, 44, 1);
+        }
+    }
+
     static void p30_bothEndsOfWhatBecomes() {
         OneBullet x = new OneBullet();
         x.place(0, 99, 0);
